@@ -14,6 +14,7 @@ public final class ModelTest {
     private final Model model = new Model();
     private final int few;
     private String path = "";
+    private int calls;
 
     private ModelTest(long number) {
         chance = new Random(number);
@@ -34,6 +35,7 @@ public final class ModelTest {
     }
 
     private void due(String call, long got, long want) {
+        calls++;
         path = path + call + " ";
         tally.due(path, got, want);
     }
@@ -68,7 +70,6 @@ public final class ModelTest {
         }
     }
 
-    /** Acts that can be, mostly: one that can not is left away by wiping what came last. */
     private void talk() {
         if (chance.nextInt(4) == 0) {
             due("wipe()", tree.wipe(), model.wipe());
@@ -95,7 +96,7 @@ public final class ModelTest {
         if (chance.nextBoolean()) {
             due("done()", tree.done(), model.done());
         }
-        if (tree.judge(0) != KeyedTree.NONE) {
+        if (model.judge(0) != KeyedTree.NONE) {
             due("wipe()", tree.wipe(), model.wipe());
         }
     }
@@ -180,7 +181,8 @@ public final class ModelTest {
         Tally all = new Tally("ModelTest");
         for (int number = 0; number < runs && all.wrongs() == 0; number++) {
             ModelTest run = new ModelTest(number);
-            for (int i = 0; i < 40 && run.tally.wrongs() == 0; i++) {
+            // An object answers 512 calls, and no step takes more than a hundred.
+            while (run.calls < 410 && run.tally.wrongs() == 0) {
                 run.step();
             }
             all.due("run " + number + ", wrong answers", run.tally.wrongs(), 0);
