@@ -25,11 +25,12 @@ public final class KeyedTree {
     private final World drawn = new World();
     private final Pad pad = new Pad();
     private final Sights sights = new Sights();
-    private final Act act = new Act();
-    private final Tree oneTree = new Tree();
-    private final Tree otherTree = new Tree();
-    private final Trial trial = new Trial(act, oneTree, otherTree);
     private final Image[] images = new Image[IMAGES];
+    private final Trial trial = new Trial();
+    /** The trial's own are free again when it has ended, so they serve for all else too. */
+    private final Act act = trial.act;
+    private final Tree oneTree = trial.treeBefore;
+    private final Tree otherTree = trial.treeAfter;
 
     public KeyedTree() {
         for (int k = 0; k < IMAGES; k++) {
@@ -683,11 +684,11 @@ public final class KeyedTree {
 
     /** The acts of a pad played one by one, aside, as far as they can be. */
     private static final class Trial {
-        private final Act act;
-        private final Tree treeBefore;
-        private final Tree treeAfter;
-        private final World before = new World();
+        final Act act = new Act();
+        final Tree treeBefore = new Tree();
+        final Tree treeAfter = new Tree();
         final World after = new World();
+        private final World before = new World();
 
         /** How many acts were played: the next one, if whyNot tells a reason, can not be. */
         int acts;
@@ -695,12 +696,6 @@ public final class KeyedTree {
         int work;
         int alikeAct;
         int alikePair;
-
-        Trial(Act act, Tree treeBefore, Tree treeAfter) {
-            this.act = act;
-            this.treeBefore = treeBefore;
-            this.treeAfter = treeAfter;
-        }
 
         void play(Pad pad, World from) {
             after.copy(from);

@@ -132,6 +132,10 @@ public final class ActsTest {
         judged(tree, "A+05A/00BA&BA+04A/00BC=CA&A", 5, 1);
         canBe(tree, "A+05A-05A+05A-05");
         canBe(tree, "A+05A/00BA+05");
+        // What could not be is forgotten with the signs that told it.
+        judged(tree, "A=A", 0, 1);
+        canBe(tree, "");
+        TALLY.due("done with nothing", tree.done(), 0);
     }
 
     private static void work(KeyedTree tree, String text, int want) {
@@ -143,6 +147,10 @@ public final class ActsTest {
     private static void workOfKeys() {
         KeyedTree tree = new KeyedTree();
         work(tree, "A+05", 1);
+        work(tree, "A+00", 1);
+        work(tree, "A+49", 1);
+        work(tree, "A+00A+05", 1 + 1);
+        work(tree, "A+05A+00", 1 + 2);
         work(tree, "A+05A+02", 1 + 2);
         work(tree, "A+02A+05", 1 + 1);
         work(tree, "A+05A+02A-02", 1 + 2 + 1);

@@ -74,7 +74,7 @@ public final class ModelTest {
         if (chance.nextInt(4) == 0) {
             due("wipe()", tree.wipe(), model.wipe());
         }
-        int acts = 1 + chance.nextInt(6);
+        int acts = chance.nextInt(7);
         for (int i = 0; i < acts; i++) {
             String text = text();
             for (int k = 0; k < text.length(); k++) {

@@ -57,6 +57,10 @@ public final class NodesTest {
         nodeIs(tree, 0, 2, 0, 1, NONE, 2);
         nodeIs(tree, 0, 1, 2, NONE, NONE, 1);
         TALLY.due("priority of 1", tree.node(0, 1, 6), 0);
+        int[] depths = {0, 2, 1};
+        for (int key = 0; key < depths.length; key++) {
+            TALLY.due("depth of " + key, tree.node(0, key, 5), depths[key]);
+        }
     }
 
     /** Whatever the seed: who is above has this one as its left or right, and counts add up. */
