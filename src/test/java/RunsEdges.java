@@ -283,8 +283,8 @@ final class RunsEdges {
     private static void toldOutside(Sentences s) {
         s.of("Promise 25: told", "OUTSIDE.");
         KeyedTree tree = new KeyedTree();
-        for (int what = -700; what <= 700; what++) {
-            tree = what % 500 == 0 ? Makes.full() : tree;
+        for (int what = -600; what < 600; what++) {
+            tree = what % 300 == 0 ? Makes.full() : tree;
             boolean one = what >= 0 && what <= 2 || what >= 10 && what <= 13 || what >= 20 && what <= 23;
             boolean key = what >= 100 && what < 500 && what % 100 < 50;
             if (!one && !key) {
