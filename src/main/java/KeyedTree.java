@@ -207,7 +207,7 @@ public final class KeyedTree {
 
     /** Digests are compared, never keys: two trees that differ may have one digest. */
     private static int looks(Tree oneTree, Tree otherTree, long ones, long others, int seed, int level) {
-        // Each level has a key less to part by, so none goes deeper than there are keys.
+        // Each level has a key less to part by, so none goes deeper than there are keys; by no seed does one pass 18.
         if (ones == 0 || others == 0 || level > KEYS) {
             return 1;
         }
@@ -657,24 +657,29 @@ public final class KeyedTree {
 
         /** Reads the act that begins at this place of a pad without fault: of how many signs it is. */
         int read(int from, Act act) {
-            int first = sign(from);
-            if (first == Act.SEED) {
+            if (sign(from) == Act.SEED) {
                 act.become(Act.SEED, 0, 0, 0);
                 return 1;
             }
-            int set = first - 'A';
+            int set = setAt(from);
             int kind = sign(from + 1);
             if (followKind(kind) == OTHER) {
-                act.become(kind, set, 0, sign(from + 2) - 'A');
+                act.become(kind, set, 0, setAt(from + 2));
                 return 3;
             }
             int key = 10 * (sign(from + 2) - '0') + sign(from + 3) - '0';
             if (kind == Act.PART) {
-                act.become(kind, set, key, sign(from + 4) - 'A');
+                act.become(kind, set, key, setAt(from + 4));
                 return 5;
             }
             act.become(kind, set, key, 0);
             return 4;
+        }
+
+        /** Looked at here too, though a pad without fault has a letter there: a set is an index later on. */
+        private int setAt(int i) {
+            int set = sign(i) - 'A';
+            return isSet(set) ? set : 0;
         }
 
         private int sign(int i) {

@@ -2,15 +2,11 @@ import java.lang.reflect.Constructor;
 import java.lang.reflect.Field;
 import java.lang.reflect.Method;
 import java.lang.reflect.Modifier;
-import java.nio.file.Files;
-import java.nio.file.Path;
 import java.util.Arrays;
 import java.util.Set;
 import java.util.TreeSet;
-import java.util.regex.Matcher;
-import java.util.regex.Pattern;
 
-/** The public face of the document, and those rules of LANGUAGE.md that can be seen in the class and its text. */
+/** The public face of the document, and that nothing else of the class is seen outside (LANGUAGE.md, rule 1). */
 public final class FaceTest {
     private static final Tally TALLY = new Tally("FaceTest");
     private static final String[] FACE = {
@@ -20,15 +16,10 @@ public final class FaceTest {
         "long orders(int)", "long shapes(int)", "long deep(int,int,int)", "int run(int,int,int)", "int image(int)",
         "int restore(int)", "int told(int)"};
     private static final String[] CONSTANTS = {"UNKNOWN", "OUTSIDE", "STATE", "FULL", "NO", "NONE", "GONE"};
-    private static final String[] FORBIDDEN = {
-        "\\bthrows?\\b", "\\btry\\b", "\\bcatch\\b", "\\bsynchronized\\b", "\\bassert\\b", "\\bimport\\b", "\\bpackage\\b", "->", "::",
-        "Exact\\b", "\\bstatic \\{", "\\bprotected\\b", "\\bvar\\b", "System\\.(?!arraycopy)", "\\bRandom\\b", "\\bThread\\b", "\\bjava\\."};
 
-    public static void main(String[] args) throws Exception {
+    public static void main(String[] args) {
         face();
         constants();
-        classesInside();
-        text(Files.readString(Path.of(System.getProperty("keyedtree.source", "src/main/java/KeyedTree.java"))));
         TALLY.end();
     }
 
@@ -53,10 +44,9 @@ public final class FaceTest {
             }
         }
         TALLY.must("the face is " + got, got.equals(want));
-        for (Method method : KeyedTree.class.getDeclaredMethods()) {
-            if (Modifier.isPrivate(method.getModifiers())) {
-                TALLY.must(method + " has a name of its own", !names.contains(method.getName()));
-            }
+        namesOfTheirOwn(KeyedTree.class, names);
+        for (Class<?> inside : KeyedTree.class.getDeclaredClasses()) {
+            namesOfTheirOwn(inside, names);
         }
         int modifiers = KeyedTree.class.getModifiers();
         TALLY.must("the class is public and final", Modifier.isPublic(modifiers) && Modifier.isFinal(modifiers));
@@ -84,39 +74,10 @@ public final class FaceTest {
         TALLY.must("the constants are " + got, got.equals(new TreeSet<>(Arrays.asList(CONSTANTS))));
     }
 
-    private static void classesInside() {
-        Class<?>[] inside = KeyedTree.class.getDeclaredClasses();
-        TALLY.must("at most twelve classes", inside.length < 12);
-        for (Class<?> one : inside) {
-            int modifiers = one.getModifiers();
-            TALLY.must(one + " is static and not public", Modifier.isStatic(modifiers) && !Modifier.isPublic(modifiers));
-            int fields = 0;
-            for (Field field : one.getDeclaredFields()) {
-                boolean isStatic = Modifier.isStatic(field.getModifiers());
-                TALLY.must(field + " is final, if static", !isStatic || Modifier.isFinal(field.getModifiers()));
-                fields += isStatic ? 0 : 1;
-            }
-            TALLY.must(one + " has few fields", fields <= 20);
-            for (Method method : one.getDeclaredMethods()) {
-                TALLY.must(method + " has few parameters", method.getParameterCount() <= 7);
-            }
-        }
-    }
-
-    private static void text(String source) {
-        String code = source.replaceAll("(?s)/\\*.*?\\*/", " ").replaceAll("//[^\n]*", "").replaceAll("'.'", "' '");
-        for (String pattern : FORBIDDEN) {
-            Matcher found = Pattern.compile(pattern).matcher(code);
-            TALLY.must("no " + pattern, !found.find());
-        }
-        TALLY.must("no text but ASCII", source.chars().allMatch(sign -> sign < 128));
-        int began = 0;
-        String[] lines = source.split("\n");
-        for (int i = 0; i < lines.length; i++) {
-            if (lines[i].matches(" {4}( {4})?\\w[^=;]*\\) \\{")) {
-                began = i;
-            } else if (lines[i].matches(" {4}( {4})?\\}")) {
-                TALLY.must("a short method ends in line " + (i + 1), i - began <= 60 || lines[i].startsWith("    }"));
+    private static void namesOfTheirOwn(Class<?> of, Set<String> names) {
+        for (Method method : of.getDeclaredMethods()) {
+            if (Modifier.isPrivate(method.getModifiers())) {
+                TALLY.must(method + " has a name of its own", !names.contains(method.getName()));
             }
         }
     }

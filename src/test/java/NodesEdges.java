@@ -20,6 +20,7 @@ final class NodesEdges {
         oneLookIsAll(s);
         looksPartByTheHighestOfBoth(s);
         looksOfFullSets(s);
+        looksGoDownTheLongestWay(s);
         sharedHasTheSameKeys(s);
         node(s);
         place(s);
@@ -151,6 +152,15 @@ final class NodesEdges {
                 }
             }
         }
+    }
+
+    /** By no seed is a way down longer than these 19 keys by seed 113 (see RulesTest): each is parted by, but for the last. */
+    private static void looksGoDownTheLongestWay(Sentences s) {
+        s.of("Terms", "are looked at likewise: how many looks there are.");
+        int[] way = {1, 5, 6, 49, 8, 47, 44, 40, 37, 10, 11, 36, 34, 17, 18, 24, 25, 31};
+        KeyedTree tree = Talk.put(Talk.with(0, way), 1, 32);
+        s.all(tree, "seed(113)", 0, "behind(0, 3)", 18, "apart(0, 1, 1)", 37, "apart(1, 0, 1)", 37, "put(0, 32, true)", 19,
+            "behind(0, 3)", 19, "node(0, 32, 5)", 18, "apart(0, 1, 1)", 37, "apart(1, 0, 1)", 37);
     }
 
     private static void sharedHasTheSameKeys(Sentences s) {
