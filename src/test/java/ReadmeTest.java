@@ -10,7 +10,10 @@ import java.util.TreeSet;
 import java.util.regex.Matcher;
 import java.util.regex.Pattern;
 
-/** What README.md says of calls, refusals, acts, classes and tests is so for the project as it stands. */
+/**
+ * Of README.md: the example's answers, the calls and the names of their refusals, numbers, the reasons of acts, the names
+ * of classes and tests, paths. What its tables say in words is held by reading alone.
+ */
 public final class ReadmeTest {
     private static final Tally TALLY = new Tally("ReadmeTest");
     private static final Pattern EXAMPLE = Pattern.compile("tree\\.(\\w+\\(.*\\)); +// (-?\\d+): .*");
